@@ -49,11 +49,11 @@ public final class RandomRunsTest {
     }
 
     private int user() {
-        return number(0, Math.max(0, r.many(0) - 1));
+        return random.nextInt(3) == 0 ? 0 : number(0, Math.max(0, r.many(0) - 1));
     }
 
     private int someNote() {
-        return number(0, style == 0 ? 5 : 30);
+        return number(0, Math.max(0, r.made() - 1));
     }
 
     private int place() {
@@ -65,11 +65,11 @@ public final class RandomRunsTest {
     }
 
     private int fewSigns() {
-        return style == 1 ? number(1, 40) : number(1, 6);
+        return style == 1 ? number(1, 40) : number(1, style == 4 ? 20 : 6);
     }
 
     private int sign() {
-        return random.nextBoolean() ? number(0, 3) : number(0, 25);
+        return random.nextInt(3) > 0 ? number(0, 2) : number(0, 25);
     }
 
     private void both(String call, Check.Call due, Check.Call got) {
@@ -78,11 +78,11 @@ public final class RandomRunsTest {
 
     private void one(String at) {
         int kind = random.nextInt(100);
-        if (r.many(0) < 2 || kind < 2) {
-            int right = right();
+        if (r.many(0) < 3 || kind < 1) {
+            int right = r.many(0) < 2 ? 4 - r.many(0) : right();
             both(at + "user", () -> r.user(right), () -> x.user(right));
-        } else if (kind < 45) {
-            change(at, random.nextInt(style == 2 ? 30 : 20));
+        } else if (kind < 60) {
+            change(at, random.nextInt(style == 2 ? 30 : style == 3 ? 16 : 24));
         } else {
             ask(at, random.nextInt(20));
         }
@@ -98,7 +98,7 @@ public final class RandomRunsTest {
         switch (kind) {
             case 0:
                 int v = user();
-                int right = right();
+                int right = v == 0 && random.nextInt(10) > 0 ? 4 : right();
                 both(at + "setRight", () -> r.setRight(u, v, right), () -> x.setRight(u, v, right));
                 break;
             case 1: case 2: case 3:
@@ -119,10 +119,10 @@ public final class RandomRunsTest {
                 boolean isSettled = random.nextBoolean();
                 both(at + "settle", () -> r.settle(u, n, isSettled), () -> x.settle(u, n, isSettled));
                 break;
-            case 13: case 14: case 15:
+            case 13: case 14: case 20:
                 both(at + "propose", () -> r.propose(u, n, m - 1, s), () -> x.propose(u, n, m - 1, s));
                 break;
-            case 16: case 17:
+            case 15: case 16: case 17: case 21: case 22:
                 both(at + "take", () -> r.take(u, n), () -> x.take(u, n));
                 break;
             case 18:

@@ -181,6 +181,11 @@ final class Reference {
         return best;
     }
 
+    /** How many notes there ever were. */
+    int made() {
+        return items.size();
+    }
+
     int user(int right) {
         argument(right >= 0 && right <= 4);
         state(users.size() < 6);
