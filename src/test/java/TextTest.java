@@ -115,9 +115,10 @@ public final class TextTest {
         CHECK.unfit(x, "one too many from 8 on", () -> x.delete(0, 8, 2));
         CHECK.unfit(x, "MAX", () -> x.delete(0, 8, Integer.MAX_VALUE));
         CHECK.unfit(x, "none with NOTE", () -> x.delete(2, 0, 0));
-        for (int edit = 2; edit < 60; edit++) {
+        for (int edit = 2; edit < 59; edit++) {
             x.insert(0, 0, 1, 0);
         }
+        CHECK.same("the 60th edit", 65, x.delete(0, 0, 1));
         CHECK.denied(x, "a 61st edit", () -> x.delete(0, 0, 1));
         CHECK.unfit(x, "a 61st edit of none", () -> x.delete(0, 0, 0));
     }

@@ -6,8 +6,10 @@ public final class WouldBeTest {
         promise27LostBy();
         promise27Refusals();
         promise28WouldHeal();
+        promise28FromEndToStart();
         promise29WouldSee();
         promise30Digest();
+        promise30WhoSees();
         promise30CountsAll();
         CHECK.finish();
     }
@@ -89,6 +91,22 @@ public final class WouldBeTest {
         CHECK.same("in no text", -1, x.wouldHeal(0));
     }
 
+    private static void promise28FromEndToStart() {
+        Marginalia x = new Marginalia();
+        x.user(4);
+        x.insert(0, 0, 1, 9);
+        x.note(0, 0, 1, 2, 0);
+        x.delete(0, 0, 1);
+        for (int i = 0; i < 7; i++) {
+            x.insert(0, 0, 25, 10);
+        }
+        x.insert(0, 0, 24, 10);
+        CHECK.same("a text without it", -1, x.wouldHeal(0));
+        x.insert(0, 0, 1, 9);
+        CHECK.same("lost at the end of a full text", 200, x.ofNote(0, 4));
+        CHECK.same("found at its start", 0, x.wouldHeal(0));
+    }
+
     private static void promise29WouldSee() {
         Marginalia x = page();
         x.user(2);
@@ -149,6 +167,22 @@ public final class WouldBeTest {
             2, 1, 0, 0, 70, 4, 7, 1, 0, 0, 0, -1, 4, 1, 1,
             3, 0, -1, 3, 90, 3, 4, 0, 0, 0, 1, 4, 3, 1, 1,
             0, 0, 4, 50, 2, 1, 4, 70), x.digest());
+    }
+
+    private static void promise30WhoSees() {
+        Marginalia x = new Marginalia();
+        x.user(4);
+        x.user(1);
+        x.insert(0, 0, 6, 3);
+        x.note(0, 0, 1, 2, 0);
+        x.note(0, 5, 6, 0, 0);
+        CHECK.same("one note that is not seen", mixed(
+            2, 2, 2, 2, 0, 6, 1,
+            3, 4, 5, 6, 7, 8,
+            4, 2, 1, 1,
+            1, 1, 1, 0,
+            0, 0, -1, 0, 0, 0, 1, 0, 0, 0, 2, -1, 0, 1, 1,
+            1, 0, -1, 1, 0, 5, 6, 0, 0, 0, 0, -1, 5, 1, 0), x.digest());
     }
 
     private static void promise30CountsAll() {
