@@ -1,26 +1,43 @@
+import java.util.ArrayList;
+import java.util.List;
 import java.util.Objects;
 
-/** Counts what a test finds, prints what is wrong, and ends with exit code 1 if anything was. */
+/** Counts what a test finds, keeps what is wrong, and ends with exit code 1 if anything was. */
 final class Check {
 
     interface Call {
         Object make();
     }
 
+    private static final int SHOWN = 40;
+
+    private final List<String> wrong = new ArrayList<>();
     private int right;
-    private int wrong;
+
+    int right() {
+        return right;
+    }
+
+    List<String> wrong() {
+        return wrong;
+    }
 
     void same(String what, Object want, Object got) {
         if (Objects.equals(want, got)) {
             right++;
         } else {
-            wrong++;
-            System.out.println(what + " answered " + got + ", due is " + want);
+            wrong.add(what + " answered " + got + ", due is " + want);
         }
     }
 
     void is(String what, boolean holds) {
         same(what, true, holds);
+    }
+
+    /** The call answers, and throws nothing. */
+    void allowed(String what, Call call) {
+        Object got = outcome(call);
+        is(what + " answered " + got + ", it", !(got instanceof String));
     }
 
     /** The call throws just that class, and the object's digest is the same as ahead of it. */
@@ -54,8 +71,11 @@ final class Check {
     }
 
     void finish() {
-        System.out.println(right + " checks right, " + wrong + " wrong");
-        if (wrong > 0) {
+        for (int i = 0; i < wrong.size() && i < SHOWN; i++) {
+            System.out.println(wrong.get(i));
+        }
+        System.out.println(right + " checks right, " + wrong.size() + " wrong");
+        if (!wrong.isEmpty()) {
             System.exit(1);
         }
     }
