@@ -209,8 +209,14 @@ public final class EdgesOfAnchorsTest {
         check.same("the first is missing at the start of the text", 0, x.heal());
         x.delete(OWNER, 22, 1);
         x.insert(OWNER, 22, 1, 7);
-        check.same("all stand there", 1, x.heal());
-        Edges.anchor(check, "all stand there", x, 0, 20, 23);
+        check.same("all stand there", 20, x.wouldHeal(0));
+        x.insert(OWNER, 0, 1, 4);
+        check.same("another one ahead of the others", 21, x.wouldHeal(0));
+        x.delete(OWNER, 21, 1);
+        check.same("another one ahead of the others, everywhere", -1, x.wouldHeal(0));
+        x.insert(OWNER, 21, 1, 5);
+        check.same("all stand there again", 1, x.heal());
+        Edges.anchor(check, "all stand there again", x, 0, 21, 24);
         Marginalia y = Edges.text(3, 3, 4);
         y.note(OWNER, 1, 3, 2, 0);
         y.delete(OWNER, 1, 2);
@@ -358,6 +364,9 @@ public final class EdgesOfAnchorsTest {
         x.insert(OWNER, 0, 3, 10);
         check.same("the other one", 1, x.heal());
         check.same("none any more", 0, x.heal());
+        x.delete(OWNER, 0, 6);
+        x.insert(OWNER, 0, 20, 0);
+        check.same("both", 2, x.heal());
         check.same("heal without notes", 0, Edges.page(5).heal());
     }
 

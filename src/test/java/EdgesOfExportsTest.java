@@ -287,7 +287,7 @@ public final class EdgesOfExportsTest {
     private static void digestCounts(Check check) {
         Marginalia x = Edges.users();
         x.user(4);
-        x.insert(OWNER, 0, 3, 0);
+        x.insert(OWNER, 0, 4, 0);
         x.note(OWNER, 0, 1, 2, 0);
         x.note(OWNER, 1, 2, 2, 0);
         x.reply(OWNER, 0, 0);
@@ -298,7 +298,7 @@ public final class EdgesOfExportsTest {
             x.remove(OWNER, note);
         }
         check.same("of none", due(x, 3), x.digest());
-        check.same("counted", mixed(1, 0, 0, 0, 0, 2, 2, 1, 2, 4, 0, 0, 0), x.digest());
+        check.same("counted", mixed(1, 0, 0, 0, 0, 3, 2, 1, 2, 3, 4, 0, 0, 0), x.digest());
     }
 
     /** The document's numbers, asked for one by one, of so many notes ever and without an export. */

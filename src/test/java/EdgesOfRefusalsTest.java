@@ -18,6 +18,7 @@ public final class EdgesOfRefusalsTest {
         of.add("Terms: take that throws changes nothing", EdgesOfRefusalsTest::takeLeavesAll);
         of.add("Terms: export that throws changes nothing", EdgesOfRefusalsTest::exportLeavesAll);
         of.add("Terms: asking that throws changes nothing", EdgesOfRefusalsTest::askingLeavesAll);
+        of.add("Interface: what would be, nothing is changed", EdgesOfRefusalsTest::wouldBeLeavesAll);
         EdgesOfOrderTest.list(of);
     }
 
@@ -171,5 +172,25 @@ public final class EdgesOfRefusalsTest {
             x -> x.sees(0, 3), x -> x.thread(3, 0), x -> x.over(4, 0), x -> x.exported(9, 0), x -> x.exported(0, 4),
             x -> x.lostBy(4, 1), x -> x.lostBy(0, 5), x -> x.wouldHeal(3), x -> x.wouldSee(4, 1),
             x -> x.wouldSee(0, 5));
+    }
+
+    private static void wouldBeLeavesAll(Check check) {
+        Marginalia x = page();
+        Marginalia twin = page();
+        int[] lost = {0, 1, 2, 2};
+        for (int many = 1; many <= 4; many++) {
+            check.same("lostBy(0, " + many + ")", lost[many - 1], x.lostBy(0, many));
+        }
+        check.same("wouldHeal of a lost one", -1, x.wouldHeal(2));
+        check.same("wouldHeal of one that is not", 1, x.wouldHeal(1));
+        for (int user = 0; user < 4; user++) {
+            check.same("wouldSee with none", 0, x.wouldSee(user, 0));
+            check.same("wouldSee with OWN", 4, x.wouldSee(user, 4));
+        }
+        check.same("digest once more", x.digest(), x.digest());
+        check.same("what it tells", Look.at(twin, 5), Look.at(x, 5));
+        goOn(x);
+        goOn(twin);
+        check.same("what it tells later", Look.at(twin, 7), Look.at(x, 7));
     }
 }
