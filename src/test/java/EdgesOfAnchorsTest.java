@@ -279,6 +279,9 @@ public final class EdgesOfAnchorsTest {
         ahead.insert(OWNER, 4, 2, 9);
         ahead.delete(OWNER, 3, 1);
         check.same("just there", 3, ahead.wouldHeal(0));
+        Marginalia beside = Edges.text(9, 9, 9);
+        beside.note(OWNER, 1, 2, 2, 0);
+        check.same("just there, and beside it on both sides", 1, beside.wouldHeal(0));
     }
 
     private static void ofTwoTheSmaller(Check check) {
@@ -448,6 +451,11 @@ public final class EdgesOfAnchorsTest {
         check.same("lost", 1, x.wouldHeal(0));
         Edges.anchor(check, "it is not healed by that", x, 0, 8, 8);
         check.same("lost still", 1, x.many(4));
+        Marginalia y = Edges.text(9, 8, 0, 0, 9, 8, 0, 9, 8);
+        y.note(OWNER, 4, 6, 2, 0);
+        y.insert(OWNER, 5, 4, 0);
+        Edges.anchor(check, "grown", y, 0, 4, 10);
+        check.same("4 from where it begins, not 1 from where it ends", 0, y.wouldHeal(0));
     }
 
     private static void wouldHealNowhere(Check check) {
