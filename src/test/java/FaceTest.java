@@ -1,13 +1,57 @@
+import java.io.IOException;
 import java.lang.reflect.Constructor;
 import java.lang.reflect.Field;
 import java.lang.reflect.Method;
 import java.lang.reflect.Modifier;
+import java.nio.file.Files;
+import java.nio.file.Path;
 import java.util.Arrays;
 import java.util.Set;
 import java.util.TreeSet;
 
 /** The class has the document's public face, and nothing else that another class could use. */
 public final class FaceTest {
+    private static final Path SOURCE = Path.of("src/main/java/Marginalia.java");
+
+    /** As the document has it, in its order, with what the interface says ahead of the calls. */
+    private static final String[] WORDS = {
+        "public Marginalia() {",
+        "// ---- users",
+        "public int user(int right) throws IAE, ISE {",
+        "public int setRight(int by, int user, int right) throws IOE, IAE, ISE {",
+        "// ---- the text",
+        "public int insert(int user, int place, int many, int sign) throws IOE, IAE, ISE {",
+        "public int delete(int user, int place, int many) throws IOE, IAE, ISE {",
+        "public int length() {",
+        "public int sign(int version, int place) throws IOE {",
+        "public int now(int version, int place) throws IOE {",
+        "public int version() {",
+        "// ---- notes",
+        "public int note(int user, int from, int to, int view, int content) throws IOE, IAE, ISE {",
+        "public int reply(int user, int note, int content) throws IOE, IAE, ISE {",
+        "public boolean settle(int user, int note, boolean isSettled) throws IOE, ISE {",
+        "public int remove(int user, int note) throws IOE, ISE {",
+        "public int propose(int user, int note, int many, int sign) throws IOE, IAE, ISE {",
+        "public int take(int user, int note) throws IOE, IAE, ISE {",
+        "public int heal() {",
+        "// ---- asking",
+        "public int many(int what) throws IAE {",
+        "public int right(int user) throws IOE {",
+        "public int ofNote(int note, int what) throws IOE, IAE {",
+        "public int quote(int note, int place) throws IOE {",
+        "public boolean sees(int user, int note) throws IOE {",
+        "public int thread(int note, int place) throws IOE {",
+        "public int over(int user, int place) throws IOE {",
+        "public int export(int user, boolean isAll) throws IOE {",
+        "public int exported(int place, int what) throws IOE, IAE {",
+        "public double meanThread() {",
+        "// ---- what would be (nothing is changed)",
+        "public int lostBy(int place, int many) throws IOE, IAE {",
+        "public int wouldHeal(int note) throws IOE {",
+        "public int wouldSee(int user, int right) throws IOE, IAE {",
+        "public long digest() {",
+    };
+
     private static final String[] METHODS = {
         "int user(int) IAE ISE",
         "int setRight(int,int,int) IOE IAE ISE",
@@ -40,7 +84,7 @@ public final class FaceTest {
         "long digest()",
     };
 
-    public static void main(String[] args) {
+    public static void main(String[] args) throws IOException {
         Check check = new Check();
         Set<String> names = new TreeSet<>();
         Set<String> found = new TreeSet<>();
@@ -57,6 +101,7 @@ public final class FaceTest {
                 Modifier.isPublic(method.getModifiers()) || !names.contains(method.getName()));
         }
         checkTheRest(check, names);
+        checkTheWords(check);
         check.finish();
     }
 
@@ -76,6 +121,18 @@ public final class FaceTest {
             for (Method method : inside.getDeclaredMethods()) {
                 check.is(method + " has a name of its own", !names.contains(method.getName()));
             }
+        }
+    }
+
+    private static void checkTheWords(Check check) throws IOException {
+        String source = Files.readString(SOURCE).replaceAll("\\s+", " ");
+        int at = 0;
+        for (String shortWords : WORDS) {
+            String words = shortWords.replace("IOE", "IndexOutOfBoundsException")
+                .replace("IAE", "IllegalArgumentException").replace("ISE", "IllegalStateException");
+            int found = source.indexOf(words, at);
+            check.is("the source has, in its order, " + words, found >= 0);
+            at = Math.max(at, found);
         }
     }
 
